@@ -32,6 +32,9 @@ public final class StageFights {
     // One spot for all beats below 0, and one for each of the beats 0 .. 99.
     private static final int SPOTS = 101;
 
+    // Farther than any two places are from each other.
+    private static final int FARTHER = 99;
+
     private static final int MOVE_KIND = 0;
     private static final int BLOW_KIND = 2;
     private static final int LAST_KIND = 5;
@@ -1508,10 +1511,11 @@ public final class StageFights {
          * Whose blow it is stands still all through it: no two moves of one have a beat in common.
          */
         private int leastGap(Move blow, int other, int first, int last) {
-            int here = spotAt(blow.person, blow.beat);
-            int end = spotAt(other, last);
-            int least = MOST;
-            for (int spot = spotAt(other, first); spot <= end; spot++) {
+            int here = blow.person * SPOTS + 1 + blow.beat;
+            int row = other * SPOTS + 1;
+            int end = row + Math.max(-1, last);
+            int least = FARTHER;
+            for (int spot = row + Math.max(-1, first); spot <= end; spot++) {
                 int far = Math.max(Math.abs(xs[spot] - xs[here]), Math.abs(ys[spot] - ys[here]));
                 least = Math.min(least, far);
             }
@@ -1590,6 +1594,7 @@ public final class StageFights {
         private final Stage stage;
         private final int[] beats = new int[SHIFTED];
         private int many;
+        private int broken;
         /** By how much each of the first told ones goes. */
         final int[] by = new int[SHIFTED];
 
@@ -1603,6 +1608,7 @@ public final class StageFights {
             trial.takeFrom(scene);
             stage.look(trial);
             many = Math.min(SHIFTED, trial.chosenCount);
+            broken = NONE;
             for (int i = 0; i < many; i++) {
                 beats[i] = trial.moves[trial.chosen[i]].beat;
             }
@@ -1656,7 +1662,12 @@ public final class StageFights {
                     stage.trace(one.person);
                 }
             }
-            return stage.firstBreach() == NONE;
+            // What broke the last try mostly breaks this one, too; so it is looked at first.
+            if (broken != NONE && stage.tooNearTo(trial.moves[broken]) != NONE) {
+                return false;
+            }
+            broken = stage.firstBreach();
+            return broken == NONE;
         }
     }
 
