@@ -72,6 +72,16 @@ public final class BlowsTest {
         y.wet(0);
         y.set(1, 2, 25);
         Due.is("tired, gone late by 3", y.gap(0, 1), -1);
+        // Who strikes goes on right behind the blow, and has come right ahead of it.
+        StageFights w = new StageFights();
+        w.person(3, 9);
+        w.person(63, 9);
+        w.move(0, 2, 101, 0, 10);
+        w.move(0, 1, 91, 33, 10);
+        w.move(0, 1, 111, 53, 10);
+        Due.is("ahead of going on", w.gap(0, 1), 1);
+        w.set(0, 1, 0);
+        Due.is("late, all the same", w.gap(0, 1), 1);
         // At the first beat, whoever is late has not begun yet.
         StageFights z = new StageFights();
         z.person(33, 9);
@@ -104,6 +114,10 @@ public final class BlowsTest {
         Due.is("keeps of a step", x.keeps(2), Due.KIND);
         Due.is("keeps(3)", x.keeps(3), Due.BAD);
         Due.is("keeps(-1)", x.keeps(-1), Due.BAD);
+        StageFights y = blow(2, 0);
+        y.move(1, 2, 501, 0, 23);
+        Due.is("too near to person 0 alone", y.breach(0), 1);
+        Due.is("to person 0", y.breach(1), 0);
         Due.is("breach(2)", x.breach(2), Due.BAD);
         Due.is("breach(-1)", x.breach(-1), Due.BAD);
     }
@@ -134,6 +148,9 @@ public final class BlowsTest {
             Due.is("sign at " + beat, x.unready(0), ready ? 0 : 1);
             Due.is("all, sign at " + beat, x.unready(-1), ready ? 0 : 1);
         }
+        StageFights one = blow(2, 0);
+        one.sign(1, 8);
+        Due.is("the only sign", one.unready(0), 0);
         StageFights x = blow(2, 0);
         x.move(0, 4, 201, 0, 20);
         x.move(1, 5, 201, 0, 20);
@@ -166,6 +183,12 @@ public final class BlowsTest {
         Due.is("comes at the first beat", y.seen(0), 0);
         y.cut(0, true);
         Due.is("cut, not seen", y.seen(0), 0);
+        StageFights z = new StageFights();
+        z.person(57, 9);
+        z.person(50, 9);
+        z.person(0, 9);
+        z.move(1, 2, 101, 0, 20);
+        Due.is("person 0 stands ahead", z.seen(0), 0);
         Due.is("seen of a step", y.seen(1), Due.KIND);
         Due.is("seen(3)", y.seen(3), Due.BAD);
         Due.is("seen(-1)", y.seen(-1), Due.BAD);

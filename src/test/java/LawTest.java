@@ -48,6 +48,14 @@ public final class LawTest {
         fault("la", 0);
         fault("lat e", 0);
         fault("lates", 0);
+        fault("latez", 0);
+        fault("latea", 0);
+        fault("xate s", 0);
+        fault("late0", 4);
+        fault("late9", 4);
+        fault("late !+s", 6);
+        fault("late (+s)", 6);
+        fault("late !(s", 8);
         fault(" Late s", 1);
         fault("hour s", 0);
         fault("7", 0);
@@ -306,6 +314,13 @@ public final class LawTest {
         Due.is("barred, but cut", x.may(), 0);
         x.move(0, 2, 201, 0, 10);
         Due.is("barred", x.may(), 2);
+        x.cut(0, false);
+        x.cut(1, true);
+        x.set(0, 1, 9);
+        Due.text(x, "bar k=2");
+        Due.is("a breach ahead of a bar", x.may(), 1);
+        x.cut(0, true);
+        x.cut(1, false);
         Due.text(x, "bar 0");
         Due.is("lacks an hour", x.may(), 3);
         x.practise(0, 2, 50);
@@ -320,5 +335,11 @@ public final class LawTest {
         Due.is("it may", x.may(), 0);
         Due.text(x, "bar k=2");
         Due.is("barred", x.may(), 2);
+        StageFights y = new StageFights();
+        y.person(0, 9);
+        y.person(110, 9);
+        y.move(0, 2, 101, 0, 10);
+        Due.text(y, "bar k=2");
+        Due.is("the first move is barred", y.may(), 2);
     }
 }

@@ -31,8 +31,10 @@ public final class SheetsTest {
         Due.is("sheet(3, 1, min)", x.sheet(3, 1, MIN), Due.SIZE);
         Due.is("it is as it was", x.mark(3, 23, 0), 1);
         x.mark(3, 5, 1);
+        x.mark(3, 0, 1);
         Due.is("anew", x.sheet(3, 1, 24), 24);
         Due.is("all 0", x.mark(3, 5, 1), 0);
+        Due.is("all 0, the first", x.mark(3, 0, 1), 0);
         Due.is("missing", x.sheet(3, -1, 99), 0);
         Due.is("it is", x.mark(3, 0, 1), Due.NOTHING);
         Due.is("missing, n any", x.sheet(3, -1, MIN), 0);

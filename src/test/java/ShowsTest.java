@@ -4,6 +4,7 @@ public final class ShowsTest {
         seed();
         nearMisses();
         drawn();
+        drawnAheadOfAll();
         tired();
         full();
         log();
@@ -54,6 +55,12 @@ public final class ShowsTest {
         x.move(1, 1, 111, 33, 0);
         Due.is("the aim comes at the second beat", x.show(1), 1);
         Due.is("it is the aim", x.log(x.count(10) - 1, 2), 1);
+        StageFights y = new StageFights();
+        y.person(33, 9);
+        y.person(34, 9);
+        y.move(1, 2, 101, 0, 2);
+        Due.is("too near to person 0", y.show(1), 1);
+        Due.is("to person 0", y.log(0, 2), 0);
         Due.is("show(0)", x.show(0), Due.BAD);
         Due.is("show(21)", x.show(21), Due.BAD);
         Due.is("show(-1)", x.show(-1), Due.BAD);
@@ -80,7 +87,7 @@ public final class ShowsTest {
             rows = Math.min(30, rows + miss);
             Due.is("rows", x.count(10), rows);
         }
-        // Both strike and go by the same lateness: then it is as if nobody were late.
+        // Who strikes is late or not; one comes two beats behind the blow.
         StageFights y = new StageFights();
         y.person(33, 0);
         y.person(73, 9);
@@ -94,6 +101,21 @@ public final class ShowsTest {
             y.set(0, 2, 0);
             y.set(1, 2, 0);
             Due.is("who strikes is late, show " + i, y.show(1), miss);
+        }
+    }
+
+    /** At beat 0 one goes away; late by 1, 2 or 3, they are where they begin, as at all beats below 0. */
+    private static void drawnAheadOfAll() {
+        StageFights x = new StageFights();
+        x.person(33, 0);
+        x.person(43, 9);
+        Due.text(x, "late s");
+        x.move(0, 2, 1, 0, 12);
+        x.move(1, 1, 1, 103, 0);
+        int z = 1;
+        for (int i = 0; i < 60; i++) {
+            z = (z * 1103515245 + 12345) * 1103515245 + 12345;
+            Due.is("show " + i + " at beat 0", x.show(1), (z >>> 8) % 4 > 0 ? 1 : 0);
         }
     }
 
@@ -188,5 +210,16 @@ public final class ShowsTest {
         x.cut(3, true);
         x.show(20);
         Due.is("of those kept alone", x.led(), 1);
+        StageFights y = new StageFights();
+        y.person(33, 9);
+        y.person(34, 9);
+        y.move(0, 2, 101, 0, 12);
+        y.move(0, 2, 111, 0, 12);
+        y.show(1);
+        Due.is("the first move", y.led(), 0);
+        Due.is("the first move again", y.led(), 0);
+        y.cut(0, true);
+        y.show(1);
+        Due.is("the second move", y.led(), 1);
     }
 }

@@ -9,6 +9,7 @@ public final class UnderstudyTest {
         lastBeat();
         cutOnesInTheWay();
         threeOnly();
+        farthest();
         Due.end();
     }
 
@@ -186,6 +187,48 @@ public final class UnderstudyTest {
         x.shift();
         Due.is("the cut one is moved", x.of(2, 2), 15);
         Due.is("and is cut still", x.of(2, 7), 1);
+    }
+
+    /** One comes at the beat of the blow, and goes away so many beats later. */
+    private static StageFights stays(int beats) {
+        StageFights x = new StageFights();
+        x.person(33, 9);
+        x.person(73, 9);
+        x.move(0, 2, 101, 0, 12);
+        x.move(1, 1, 101, 43, 0);
+        x.move(1, 1, 10 * (10 + beats) + 1, 103, 0);
+        x.choose(0);
+        return x;
+    }
+
+    private static void farthest() {
+        StageFights x = stays(5);
+        Due.is("by 5", x.shifts(-1), 5);
+        Due.is("shift by 5", x.shift(), 5);
+        Due.is("the first told one is moved", x.of(0, 2), 15);
+        Due.is("not by 6", stays(6).shifts(-1), Due.NONE);
+        // One stands amid three others from beat 10 up to beat 14; they all must wait for beat 15.
+        StageFights y = new StageFights();
+        y.person(30, 9);
+        y.person(32, 9);
+        y.person(50, 9);
+        y.person(117, 9);
+        for (int i = 0; i < 3; i++) {
+            y.move(i, 2, 101, 0, 30);
+        }
+        y.move(3, 1, 101, 41, 0);
+        y.move(3, 1, 151, 117, 0);
+        y.choose(2);
+        y.choose(0);
+        Due.is("two of three", y.shifts(-1), Due.NONE);
+        y.choose(1);
+        Due.is("all three by 5", y.shifts(-1), 15);
+        for (int i = 0; i < 3; i++) {
+            Due.is("shifts(" + i + ")", y.shifts(i), 5);
+        }
+        y.cut(1, true);
+        Due.is("the cut one stays", y.shifts(2), 0);
+        Due.is("both others go", y.shifts(-1), 10);
     }
 
     private static void threeOnly() {
