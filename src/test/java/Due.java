@@ -55,51 +55,9 @@ final class Due {
         return all;
     }
 
-    /** All that can be asked without a change, as one text. */
+    /** All that can be seen of an object, as one text; nothing is asked of the object itself. */
     static String state(StageFights x) {
-        StringBuilder all = new StringBuilder();
-        for (int i = 0; i <= 13; i++) {
-            all.append(" count ").append(x.count(i));
-        }
-        for (int i = 0; i < 8; i++) {
-            for (int what = 0; what <= 4; what++) {
-                all.append(" told ").append(x.told(i, what));
-            }
-            for (int beat = -9; beat <= 99; beat++) {
-                all.append(' ').append(x.where(i, beat));
-            }
-            for (int other = 0; other < 8; other++) {
-                all.append(" hours ").append(x.hours(i, other, 0)).append(' ').append(x.hours(i, other, 1));
-            }
-        }
-        for (int i = 0; i < 20; i++) {
-            for (int what = 0; what <= 12; what++) {
-                all.append(" of ").append(x.of(i, what));
-            }
-            all.append(' ').append(x.keeps(i)).append(' ').append(x.seen(i)).append(' ').append(x.unready(i));
-        }
-        for (int i = 0; i < 14; i++) {
-            all.append(" text ").append(x.textTold(i, 0)).append(' ').append(x.textTold(i, 1));
-        }
-        for (int i = 0; i < 6; i++) {
-            for (int what = 0; what <= 2; what++) {
-                all.append(" wear ").append(x.wear(i, what));
-            }
-        }
-        for (int i = 0; i < 30; i++) {
-            for (int what = 0; what <= 2; what++) {
-                all.append(" log ").append(x.log(i, what));
-            }
-        }
-        for (int i = 0; i < 5; i++) {
-            all.append(" slot ").append(x.ask(i, 0)).append(' ').append(x.rest(i, 1000003));
-            for (int place = 0; place < 25; place++) {
-                all.append(' ').append(x.item(i, place));
-            }
-        }
-        all.append(" may ").append(x.may()).append(" led ").append(x.led()).append(" story ").append(x.story());
-        all.append(" shifts ").append(x.shifts(-1)).append(" breach ").append(x.breach(0)).append(' ').append(x.breach(1));
-        return all.toString();
+        return Seen.of(() -> Twin.of(x), true);
     }
 
     /** A call that is refused so, and changes nothing. */

@@ -1,6 +1,7 @@
 /** All promises, sentence by sentence: each edge that a sentence of the document names has rows of its own. */
 public final class EdgesTest {
     public static void main(String[] args) {
+        FaceEdges.all();
         RefusalEdges.all();
         StageEdges.all();
         BlowEdges.all();

@@ -1,5 +1,4 @@
 import java.io.IOException;
-import java.lang.reflect.Constructor;
 import java.lang.reflect.Field;
 import java.lang.reflect.Method;
 import java.lang.reflect.Modifier;
@@ -8,100 +7,29 @@ import java.nio.file.Path;
 import java.util.ArrayList;
 import java.util.Arrays;
 import java.util.List;
+import java.util.Map;
 import java.util.Set;
+import java.util.TreeMap;
 import java.util.TreeSet;
-import java.util.regex.Matcher;
-import java.util.regex.Pattern;
 
-/** What of LANGUAGE.md can be seen in the source and in the compiled classes. */
+/** What of LANGUAGE.md can be seen in the source (as the compiler reads it) and in the compiled classes. */
 public final class LanguageTest {
     private static final Path SOURCE = Path.of("src/main/java/StageFights.java");
-    private static final Path DOCUMENT = Path.of("../shared/DOC.md");
+    private static final int DEEPEST = 8;
 
     public static void main(String[] args) throws IOException {
-        String source = Files.readString(SOURCE);
-        String bare = bare(source);
-        signs(source);
-        words(bare);
-        library(bare);
-        face();
-        classes();
+        Source source = Source.of(SOURCE);
+        for (String row : source.broken) {
+            Due.is(row, 1, 0);
+        }
+        Due.is("methods are found", source.methods > 100 ? 1 : 0, 1);
+        Due.is("calls are found", source.calls.get("StageFights.shift").contains("Shifter.seek") ? 1 : 0, 1);
+        classes(source);
         names();
-        lengths(bare);
+        depth(source.calls);
+        makers(source);
+        finds();
         Due.end();
-    }
-
-    /** Without comments, and without what stands in texts and signs. */
-    private static String bare(String source) {
-        return source.replaceAll("(?s)/\\*.*?\\*/", "").replaceAll("//[^\n]*", "")
-            .replaceAll("\"[^\"\n]*\"", "\"\"").replaceAll("'[^'\n]'", "' '");
-    }
-
-    private static void signs(String source) {
-        int other = 0;
-        for (char c : source.toCharArray()) {
-            other += c == '\n' || c >= ' ' && c < 127 ? 0 : 1;
-        }
-        Due.is("signs outside 32 .. 126", other, 0);
-    }
-
-    private static void words(String bare) {
-        String[] never = {
-            "\\bthrow\\b", "\\bthrows\\b", "\\btry\\b", "\\bcatch\\b", "\\bfinally\\b", "\\bsynchronized\\b", "\\bassert\\b",
-            "\\bvolatile\\b", "\\bnative\\b", "\\bvar\\b", "\\bpackage\\b", "\\bprotected\\b", "->", "::", "@", "Exact\\(",
-            "static\\s*\\{", "\\bhashCode\\b", "\\btoString\\b", "\\bdouble\\b", "\\bfloat\\b", "\\+ *\"\"", "\"\" *\\+"};
-        for (String word : never) {
-            Due.is("rule 2, 3, 6, 10: " + word, Pattern.compile(word).matcher(bare).find() ? 1 : 0, 0);
-        }
-        Matcher loop = Pattern.compile("while \\(([^\n]*)\\) \\{").matcher(bare);
-        while (loop.find()) {
-            Due.is("rule 9: while (" + loop.group(1) + ")", loop.group(1).contains("<") ? 1 : 0, 1);
-        }
-        Due.is("rule 9: for without a bound", bare.contains(";;") ? 1 : 0, 0);
-    }
-
-    private static void library(String bare) {
-        Matcher named = Pattern.compile("\\bimport ([\\w.]+);").matcher(bare);
-        while (named.find()) {
-            Due.is("rule 4: import " + named.group(1), named.group(1).equals("java.util.Arrays") ? 1 : 0, 1);
-        }
-        Set<String> allowed = Set.of("Math.max", "Math.min", "Math.abs", "System.arraycopy", "Arrays.copyOf");
-        Matcher called = Pattern.compile("\\b(Math|System|Arrays|Integer|Long|String|Objects)\\.(\\w+)").matcher(bare);
-        while (called.find()) {
-            Due.is("rule 4: " + called.group(), allowed.contains(called.group()) ? 1 : 0, 1);
-        }
-    }
-
-    private static void face() throws IOException {
-        String document = Files.readString(DOCUMENT);
-        String shown = document.substring(document.indexOf("```java"), document.indexOf("## Terms"));
-        Set<String> due = new TreeSet<>();
-        Matcher call = Pattern.compile("public int (\\w+)\\(([^)]*)\\);").matcher(shown);
-        while (call.find()) {
-            due.add(call.group(1) + call.group(2).replaceAll("(int|boolean) \\w+", "$1"));
-        }
-        Set<String> have = new TreeSet<>();
-        for (Method m : StageFights.class.getDeclaredMethods()) {
-            if (!Modifier.isPrivate(m.getModifiers()) && !m.isSynthetic()) {
-                List<String> types = new ArrayList<>();
-                for (Class<?> type : m.getParameterTypes()) {
-                    types.add(type.getName());
-                }
-                have.add(m.getName() + String.join(", ", types));
-                Due.is("rule 1: " + m.getName(), Modifier.isPublic(m.getModifiers()) && m.getReturnType() == int.class ? 1 : 0, 1);
-            }
-        }
-        Due.is("the document has 50 calls", due.size(), 50);
-        Due.is("the face " + have + " is " + due, have.equals(due) ? 1 : 0, 1);
-        List<String> constants = Arrays.asList("BAD", "NO", "FULL", "NONE", "NOTHING", "KIND", "INDEX", "SIZE");
-        for (Field f : StageFights.class.getDeclaredFields()) {
-            boolean open = !Modifier.isPrivate(f.getModifiers());
-            Due.is("rule 1: field " + f.getName(), open && !constants.contains(f.getName()) ? 1 : 0, 0);
-        }
-        Constructor<?>[] made = StageFights.class.getConstructors();
-        Due.is("one constructor", made.length, 1);
-        Due.is("without parameters", made[0].getParameterCount(), 0);
-        Due.is("final", Modifier.isFinal(StageFights.class.getModifiers()) ? 1 : 0, 1);
     }
 
     private static List<Class<?>> all() {
@@ -111,25 +39,19 @@ public final class LanguageTest {
         return all;
     }
 
-    private static void classes() {
+    private static void classes(Source source) {
+        Due.is("the classes that the source has", source.classes.size(), all().size());
         Due.is("rule 11: twelve classes at most", all().size() <= 12 ? 1 : 0, 1);
         for (Class<?> each : all()) {
             int fields = 0;
-            boolean inside = each != StageFights.class;
-            Due.is("rule 1: " + each, inside && Modifier.isPublic(each.getModifiers()) ? 1 : 0, 0);
-            Due.is("rule 2: " + each, inside && !Modifier.isStatic(each.getModifiers()) ? 1 : 0, 0);
             for (Field f : each.getDeclaredFields()) {
-                boolean fixed = Modifier.isStatic(f.getModifiers());
-                fields += fixed ? 0 : 1;
-                Due.is("rule 5: " + f, fixed && !Modifier.isFinal(f.getModifiers()) ? 1 : 0, 0);
+                fields += Modifier.isStatic(f.getModifiers()) ? 0 : 1;
             }
             Due.is("rule 11: fields of " + each + ": " + fields, fields <= 20 ? 1 : 0, 1);
-            for (Method m : each.getDeclaredMethods()) {
-                Due.is("rule 11: " + m, m.getParameterCount() <= 7 ? 1 : 0, 1);
-            }
         }
     }
 
+    /** Rule 1: no other method bears the name of one of the face, in the classes inside neither. */
     private static void names() {
         Set<String> open = new TreeSet<>();
         for (Method m : StageFights.class.getMethods()) {
@@ -143,15 +65,105 @@ public final class LanguageTest {
         }
     }
 
-    private static void lengths(String bare) {
-        Matcher head = Pattern.compile("(?m)^( +)(?=\\w)(?!return|else|if|for|while|switch)[\\w\\[\\] ]+\\([^;{}]*\\) \\{\n").matcher(bare);
-        int methods = 0;
-        while (head.find()) {
-            int end = bare.indexOf("\n" + head.group(1) + "}", head.end());
-            long lines = bare.substring(head.end(), end).lines().count();
-            methods++;
-            Due.is("rule 11: " + head.group().trim() + " has " + lines + " lines", lines <= 60 ? 1 : 0, 1);
+    // ---- rules 8 and 11: who calls whom
+
+    private static Set<String> reached(Map<String, Set<String>> calls, String from) {
+        Set<String> all = new TreeSet<>();
+        List<String> open = new ArrayList<>(calls.getOrDefault(from, Set.of()));
+        while (!open.isEmpty()) {
+            String one = open.remove(open.size() - 1);
+            if (all.add(one)) {
+                open.addAll(calls.getOrDefault(one, Set.of()));
+            }
         }
-        Due.is("methods are found", methods > 100 ? 1 : 0, 1);
+        return all;
+    }
+
+    private static void depth(Map<String, Set<String>> calls) {
+        Map<String, Set<String>> reached = new TreeMap<>();
+        Set<String> recursive = new TreeSet<>();
+        for (String one : calls.keySet()) {
+            reached.put(one, reached(calls, one));
+            if (reached.get(one).contains(one)) {
+                recursive.add(one);
+            }
+        }
+        // Both carry how many ( and ! are open, and refuse the ninth: 9 times 7 calls and 9 more stand open at the most.
+        Due.is("rule 8: recursion in " + recursive, recursive.equals(Set.of("Reader.tier", "Reader.piece")) ? 1 : 0, 1);
+        Map<String, Integer> deep = new TreeMap<>();
+        for (String one : calls.keySet()) {
+            int levels = deepest(calls, reached, deep, one);
+            Due.is("rule 11: " + one + " goes " + levels + " deep", levels <= DEEPEST ? 1 : 0, 1);
+        }
+        Due.is("depths are found", deep.get("StageFights.shift") > 4 ? 1 : 0, 1);
+    }
+
+    /** How many calls stand open below one and with it; those that call one another count once each. */
+    private static int deepest(Map<String, Set<String>> calls, Map<String, Set<String>> reached, Map<String, Integer> deep, String from) {
+        if (deep.containsKey(from)) {
+            return deep.get(from);
+        }
+        Set<String> together = new TreeSet<>(Set.of(from));
+        for (String other : reached.getOrDefault(from, Set.of())) {
+            if (reached.getOrDefault(other, Set.of()).contains(from)) {
+                together.add(other);
+            }
+        }
+        int below = 0;
+        for (String one : together) {
+            for (String other : calls.getOrDefault(one, Set.of())) {
+                if (!together.contains(other)) {
+                    below = Math.max(below, deepest(calls, reached, deep, other));
+                }
+            }
+        }
+        deep.put(from, below + together.size());
+        return deep.get(from);
+    }
+
+    /** Rule 12, and the one room that all calls share: a text that is told is all that a call makes. */
+    private static void makers(Source source) {
+        Due.is("rule 12: " + source.makers + " make objects", source.makers.equals(Set.of("Reader.read")) ? 1 : 0, 1);
+    }
+
+    // ---- that the rules are seen at all
+
+    private static void finds() throws IOException {
+        found(2, "Runnable r = () -> { };");
+        found(2, "Object o = new Object() { };");
+        found(2, "class Local { }");
+        found(3, "Object o = null;");
+        found(3, "int[][][] o = new int[1][1][1];");
+        found(4, "int o = Math.addExact(1, 2);");
+        found(4, "int o = Integer.MAX_VALUE;");
+        found(4, "long o = System.nanoTime();");
+        found(4, "String o = \"a\".trim();");
+        found(6, "throw new IllegalStateException();");
+        found(6, "try { } finally { }");
+        found(6, "synchronized (this) { }");
+        found(6, "assert true;");
+        found(6, "boolean o = \"a\" == \"b\";");
+        found(9, "for (;;) { }");
+        found(9, "while (true) { }");
+        found(9, "do { } while (true);");
+        found(10, "String o = \"a\" + 1;");
+        found(11, "int o = 0;\n" + "o++;\n".repeat(60));
+        found(12, "of(this);");
+        found(0, "int o = Math.max(1, 2); for (int i = 0; i < o; i++) { o--; }");
+    }
+
+    private static void found(int rule, String rows) throws IOException {
+        Path folder = Files.createTempDirectory("rules");
+        Path file = folder.resolve("StageFights.java");
+        Files.writeString(file, "public final class StageFights {\n    private int all() {\n" + rows
+            + "\n        return 0;\n    }\n    private static void of(StageFights x) {\n    }\n}\n");
+        List<String> broken = Source.of(file).broken;
+        boolean seen = false;
+        for (String row : broken) {
+            seen |= row.startsWith("rule " + rule + ",");
+        }
+        Due.is("rule " + rule + " is seen in '" + rows.lines().findFirst().orElse("") + "': " + broken, seen || rule == 0 && broken.isEmpty() ? 1 : 0, 1);
+        Files.delete(file);
+        Files.delete(folder);
     }
 }

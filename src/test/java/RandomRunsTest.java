@@ -1,6 +1,4 @@
-import java.lang.reflect.Method;
 import java.util.ArrayList;
-import java.util.HashMap;
 import java.util.List;
 import java.util.Map;
 import java.util.Random;
@@ -9,17 +7,11 @@ import java.util.TreeMap;
 /** All promises: random runs of up to 512 calls on StageFights and on Plain, which must answer alike. */
 public final class RandomRunsTest {
     private static final int RUNS = Integer.getInteger("runs", 3000);
-    private static final int CALLS = 512;
 
     private final Random random;
-    private final StageFights x = new StageFights();
-    private final Plain y = new Plain();
-    private final List<String> told = new ArrayList<>();
-    private int calls = 0;
-    private boolean differs = false;
+    private final Both both = new Both();
+    private final Plain y = both.plain;
 
-    private static final Map<String, Method> OURS = methods(StageFights.class);
-    private static final Map<String, Method> PLAIN = methods(Plain.class);
     /** How often each answer came, so that a run that never gets anywhere is seen. */
     private static final Map<String, Integer> SEEN = new TreeMap<>();
 
@@ -33,8 +25,8 @@ public final class RandomRunsTest {
         for (int seed = 0; seed < RUNS && wrong < 3; seed++) {
             RandomRunsTest run = new RandomRunsTest(seed);
             run.go(seed);
-            calls += run.calls;
-            wrong += run.differs ? 1 : 0;
+            calls += run.both.calls();
+            wrong += run.both.differs() ? 1 : 0;
         }
         System.out.println(RUNS + " runs, " + calls + " calls, " + wrong + " runs not as due");
         if (Boolean.getBoolean("tally")) {
@@ -52,17 +44,6 @@ public final class RandomRunsTest {
         if (wrong != 0) {
             System.exit(1);
         }
-    }
-
-    private static Map<String, Method> methods(Class<?> owner) {
-        Map<String, Method> all = new HashMap<>();
-        for (Method m : owner.getDeclaredMethods()) {
-            if (java.lang.reflect.Modifier.isPublic(m.getModifiers()) && !java.lang.reflect.Modifier.isStatic(m.getModifiers())) {
-                m.setAccessible(true);
-                all.put(m.getName(), m);
-            }
-        }
-        return all;
     }
 
     private int pick(int least, int most) {
@@ -83,32 +64,12 @@ public final class RandomRunsTest {
     }
 
     private int call(String name, Object... args) {
-        if (calls >= CALLS || differs) {
+        if (both.calls() >= Both.CALLS || both.differs()) {
             return 0;
         }
-        calls++;
-        try {
-            int got = (int) OURS.get(name).invoke(x, args);
-            int due = (int) PLAIN.get(name).invoke(y, args);
-            told.add(name + java.util.Arrays.toString(args) + " answered " + got);
-            tally(name, got);
-            if (got != due) {
-                differs = true;
-                for (String row : told) {
-                    System.out.println(row);
-                }
-                System.out.println("due is " + due);
-            }
-            return got;
-        } catch (ReflectiveOperationException thrown) {
-            differs = true;
-            for (String row : told) {
-                System.out.println(row);
-            }
-            System.out.println(name + java.util.Arrays.toString(args) + " threw " + thrown.getCause());
-            thrown.printStackTrace(System.out);
-            return 0;
-        }
+        int got = both.call(name, args);
+        tally(name, got);
+        return got;
     }
 
     private static void tally(String name, int got) {
@@ -188,9 +149,9 @@ public final class RandomRunsTest {
         for (int i = 0; i < moves; i++) {
             move(spans);
         }
-        int limit = pick(40, CALLS);
+        int limit = pick(40, Both.CALLS);
         int mood = random.nextInt(6);
-        for (int i = 0; i < CALLS && calls < limit && !differs; i++) {
+        for (int i = 0; i < Both.CALLS && both.calls() < limit && !both.differs(); i++) {
             act(one(3) ? random.nextInt(6) : mood, spans);
         }
         for (int i = 0; i < 14; i++) {

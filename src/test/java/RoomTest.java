@@ -13,6 +13,7 @@ public final class RoomTest {
     public static void main(String[] args) throws IllegalAccessException {
         room();
         made();
+        texts();
         Due.end();
     }
 
@@ -67,13 +68,42 @@ public final class RoomTest {
         x.choose(7);
         x.keep();
         dear(x, 200);
-        com.sun.management.ThreadMXBean told = (com.sun.management.ThreadMXBean) ManagementFactory.getThreadMXBean();
-        long thread = Thread.currentThread().getId();
-        long before = told.getThreadAllocatedBytes(thread);
+        long before = bytesMade();
         dear(x, 500);
-        long bytes = told.getThreadAllocatedBytes(thread) - before;
+        long bytes = bytesMade() - before;
         System.out.println(bytes + " bytes made by 500 turns of dear calls");
         Due.is("dear calls make nothing", bytes < 100000 ? 1 : 0, 1);
+    }
+
+    private static long bytesMade() {
+        com.sun.management.ThreadMXBean told = (com.sun.management.ThreadMXBean) ManagementFactory.getThreadMXBean();
+        return told.getThreadAllocatedBytes(Thread.currentThread().getId());
+    }
+
+    /** The longest texts, as many as 512 calls can tell: a text and its two rows each, whether there is room for it or not. */
+    private static void texts() {
+        StageFights x = new StageFights();
+        String longest = "late 3" + "-0".repeat(45);
+        int[] fours = new int[24];
+        for (int i = 0; i < fours.length; i++) {
+            fours[i] = Due.four(longest, 4 * i);
+        }
+        told(x, fours, 200);
+        long before = bytesMade();
+        told(x, fours, 56);
+        long bytes = bytesMade() - before;
+        System.out.println(bytes + " bytes made by 56 of the longest texts");
+        Due.is("a text makes little", bytes < 56 * 1200 ? 1 : 0, 1);
+        Due.is("they are told", x.count(5), 14);
+    }
+
+    private static void told(StageFights x, int[] fours, int times) {
+        for (int turn = 0; turn < times; turn++) {
+            for (int i = 0; i < fours.length; i += 3) {
+                x.feed(fours[i], fours[i + 1], fours[i + 2]);
+            }
+            x.text();
+        }
     }
 
     private static void dear(StageFights x, int turns) {

@@ -12,7 +12,10 @@ import java.util.regex.Pattern;
 /** The sentences of ../shared/DOC.md: which of them the rows at hand test, and which of them no test has named. */
 final class Sentences {
     private static final Path DOCUMENT = Path.of("../shared/DOC.md");
-    /** By "Terms 0" .. "Terms 5" and "Promise 1" .. "Promise 51". */
+    /**
+     * By "What it is", "The public face", "Terms 0" .. "Terms 5", "Ahead of the calls", "Promise 1" .. "Promise 51" (what is
+     * promised), "Head 1" .. "Head 51" (a promise's name and its call) and "Not promised".
+     */
     private static final Map<String, String> SECTIONS = sections();
     private static final Map<String, boolean[]> NAMED = new LinkedHashMap<>();
 
@@ -29,6 +32,16 @@ final class Sentences {
         name("Promise " + number, sentence);
     }
 
+    /** Of what stands around 'Terms' and the promises. */
+    static void frame(String section, String sentence) {
+        name(section, sentence);
+    }
+
+    /** A section as it stands, its white space folded. */
+    static String section(String section) {
+        return SECTIONS.getOrDefault(section, "");
+    }
+
     /** The sentence that is tested now, for the row of a wrong answer. */
     static String now() {
         return now;
@@ -36,7 +49,7 @@ final class Sentences {
 
     private static void name(String section, String sentence) {
         String all = SECTIONS.getOrDefault(section, "");
-        String sought = sentence.replaceAll("\\s+", " ").strip();
+        String sought = folded(sentence);
         int from = all.indexOf(sought);
         Due.is(section + " says '" + sought + "'", from >= 0 ? 1 : 0, 1);
         boolean[] named = NAMED.computeIfAbsent(section, key -> new boolean[all.length()]);
@@ -65,23 +78,39 @@ final class Sentences {
         return rows;
     }
 
-    private static Map<String, String> sections() {
-        String document;
+    private static String folded(String text) {
+        return text.replaceAll("\\s+", " ").strip();
+    }
+
+    private static String read() {
         try {
-            document = Files.readString(DOCUMENT);
+            return Files.readString(DOCUMENT);
         } catch (IOException thrown) {
             throw new UncheckedIOException(thrown);
         }
+    }
+
+    private static String between(String document, String from, String until) {
+        int start = document.indexOf(from) + from.length();
+        return document.substring(start, until.isEmpty() ? document.length() : document.indexOf(until, start));
+    }
+
+    private static Map<String, String> sections() {
+        String document = read();
         Map<String, String> all = new LinkedHashMap<>();
-        String terms = document.substring(document.indexOf("## Terms") + 8, document.indexOf("Ahead of the calls"));
-        String[] parts = terms.replace("```text", " ").replace("```", " ").split("======== \\d ");
+        all.put("What it is", folded(between(document, "## What it is\n", "## The public face\n")));
+        all.put("The public face", folded(between(document, "## The public face\n", "## Terms\n").replace("```java", " ").replace("```", " ")));
+        String[] parts = between(document, "## Terms\n", "Ahead of the calls").replace("```text", " ").replace("```", " ").split("======== \\d ");
         for (int i = 0; i < parts.length; i++) {
-            all.put("Terms " + i, parts[i].replaceAll("\\s+", " ").strip());
+            all.put("Terms " + i, folded(parts[i]));
         }
-        Matcher promise = Pattern.compile("(?s)## (Promise \\d+):[^\n]*\n+`[^`]*`: (.*?)(?=\n## )").matcher(document);
+        all.put("Ahead of the calls", folded("Ahead of the calls" + between(document, "Ahead of the calls", "## Promise 1:")));
+        Matcher promise = Pattern.compile("(?s)## Promise (\\d+): ([^\n]*)\n+`([^`]*)`: (.*?)(?=\n## )").matcher(document);
         while (promise.find()) {
-            all.put(promise.group(1), promise.group(2).replaceAll("\\s+", " ").strip());
+            all.put("Head " + promise.group(1), folded(promise.group(2) + ": " + promise.group(3)));
+            all.put("Promise " + promise.group(1), folded(promise.group(4)));
         }
+        all.put("Not promised", folded(between(document, "## Not promised\n", "")));
         return all;
     }
 }
