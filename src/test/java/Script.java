@@ -20,7 +20,8 @@ import java.util.Set;
  * </pre>
  *
  * Each call that is refused, and of the calls that only ask the first of each name, is made on a twin, too: all that can be
- * seen must be as if it had not been made. No object is used for more than 512 calls: the document promises nothing behind.
+ * seen must be as if it had not been made. No object is used for more than 512 calls: the document promises nothing behind;
+ * so a twin is left out, where too little is left of its calls to look at it.
  */
 final class Script {
     private static final int MOST_CALLS = 512;
@@ -39,6 +40,7 @@ final class Script {
     private final StageFights x = new StageFights();
     private final Set<String> asked = new HashSet<>();
     private int made = 0;
+    private int madeForGood = 0;
     private String seenBefore = null;
 
     private Script() {
@@ -61,21 +63,36 @@ final class Script {
         int got = row.make(x);
         made += row.calls();
         Due.is(Sentences.now() + row.text, got, row.due);
+        if (madeForGood + row.calls() + Seen.MOST_CALLS <= MOST_CALLS) {
+            compare(row);
+        }
+        if (changes(row)) {
+            done.add(row);
+            madeForGood += row.calls();
+            seenBefore = null;
+        }
+    }
+
+    /** A text or a check does, even if it is refused: the tape, or the numbers that wait. */
+    private static boolean changes(Row row) {
+        boolean always = row.name.equals("text") || row.name.equals("check");
+        return always || !REFUSALS.contains(row.due) && !ASKING.contains(row.name);
+    }
+
+    private void compare(Row row) {
         boolean refused = REFUSALS.contains(row.due);
         if (row.name.equals("text") && (refused || row.due <= -100)) {
             same(row, Seen.of(twin(new Row("trim(0) 0")), true), Seen.of(twin(row), true));
         } else if (row.name.equals("check") && refused) {
             same(row, Seen.of(twin(null), false), Seen.of(twin(row), false));
+            made++;
             Due.is(Sentences.now() + row.text + ": no number waits", x.count(11), 0);
         } else if (refused || ASKING.contains(row.name)) {
             if (refused || asked.add(row.name)) {
                 seenBefore = seenBefore == null ? Seen.of(twin(null), true) : seenBefore;
                 same(row, seenBefore, Seen.of(twin(row), true));
             }
-            return;
         }
-        done.add(row);
-        seenBefore = null;
     }
 
     private static void same(Row row, String before, String after) {
@@ -165,7 +182,7 @@ final class Script {
         }
 
         int calls() {
-            return bytes == null ? times : (bytes.length() + 11) / 12 + (name.equals("text") ? 2 : 1);
+            return bytes == null ? times : (bytes.length() + 11) / 12 + 2;
         }
 
         /** Makes the call; of several alike the first answer that is not due, or the last. */

@@ -4,6 +4,9 @@ import java.util.function.Supplier;
 
 /** All that can be seen of an object, also by calls that change it: so each part is looked at on an object of its own. */
 final class Seen {
+    /** No part asks more of an object. */
+    static final int MOST_CALLS = 190;
+
     private static final List<BiConsumer<StageFights, StringBuilder>> PARTS = List.of(
         Seen::counts, Seen::people, (x, all) -> moves(x, all, 0), (x, all) -> moves(x, all, 10), Seen::blows,
         Seen::lawAndLog, Seen::slots, Seen::sheets, Seen::told, Seen::tape, Seen::image, Seen::shows);
